@@ -378,9 +378,11 @@ public final class MarkOrder {
         }
 
         void swapWithNext(int i) {
-            int next = cell(i + 1);
-            setCell(i + 1, cell(i));
-            setCell(i, next);
+            if (has(i) && has(i + 1)) {
+                int next = cells[i + 1];
+                cells[i + 1] = cells[i];
+                cells[i] = next;
+            }
         }
 
         void empty() {

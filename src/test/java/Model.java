@@ -302,21 +302,14 @@ final class Model {
                 Collections.reverse(turned);
                 return turned;
             default:
-                List<Integer> first = new ArrayList<>(row);
-                while (first.stream().filter(c -> rank(c) == 0).count() > 1) {
-                    first.remove(first.size() - 1);
+                List<Integer> bases = row.stream().filter(c -> rank(c) == 0).toList();
+                if (bases.size() < 2) {
+                    return row;
                 }
-                return first.size() < row.size() ? untilBase(row, first.size()) : first;
+                int firstBase = row.indexOf(bases.get(0));
+                int behind = row.subList(firstBase + 1, row.size()).indexOf(bases.get(1));
+                return row.subList(0, firstBase + 1 + behind);
         }
-    }
-
-    /** Marks behind the first base belong to it: all up to the next base, which stands at the end of what was cut. */
-    private List<Integer> untilBase(List<Integer> row, int from) {
-        int end = from;
-        while (end < row.size() && rank(row.get(end)) > 0) {
-            end++;
-        }
-        return new ArrayList<>(row.subList(0, end));
     }
 
     private List<Integer> pieces(List<Integer> row) {

@@ -208,6 +208,9 @@ public final class PromisesTest {
         dueFault("c0;c0;p0 1", 10);
         dueFault("c0;c0;p0 1  ", 12);
         dueFault("cc0;", 0);
+        dueFault("ca0;", 0);
+        dueFault("cz0;", 0);
+        dueFault("zc0;", 0);
         dueFault("c0; pp0 0;", 4);
         dueFault("y0;", 0);
         dueFault("C0;", 0);
@@ -783,18 +786,19 @@ public final class PromisesTest {
         fixedByLength();
     }
 
-    /** Back, then first, then back: a code goes each time, till one base is left. */
+    /** Joined to its base, turned, taken apart, turned again: each time the mark goes one base ahead. */
     private static void fixedByLength() {
-        MarkOrder x = told("c0;c1;p0 0;p2 0;p3 0;");
-        x.pipes(FIRST);
-        x.pipes(BACK);
-        put(x, 0, 1, 0, 0);
-        due("21 fixed: twice the first", x.fixed(0), NONE);
-        // Each pass joins one base more: 0 0 is 2, 2 0 is 3, 3 0 is 4; joined does all at once.
-        x.unpipe();
+        MarkOrder x = told("c0;c1;p0 1;");
         x.pipes(JOINED);
-        put(x, 1, 0, 0, 0, 0);
-        due("21 fixed: joined at once", x.fixed(1), 1);
+        x.pipes(BACK);
+        x.pipes(APART);
+        x.pipes(BACK);
+        for (int bases = 0; bases <= 12; bases++) {
+            x.puts(0, 1);
+            due("21 fixed: behind " + bases + " bases", x.fixed(0), bases <= 9 ? bases : NONE);
+            x.cuts(0);
+            x.puts(0, 0);
+        }
     }
 
     private static void promise22Keep() {
