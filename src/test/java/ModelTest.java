@@ -2,6 +2,8 @@
 public final class ModelTest {
     private static final Checks CHECKS = new Checks("ModelTest");
     private static final int RUNS = 6000, CALLS = 512;
+    // The most calls that one step makes, and that telling tables makes.
+    private static final int STEP_CALLS = 2, TELL_CALLS = 160;
     private static final int[] SEEN_FIXED = new int[20];
 
     private final Draws draws;
@@ -30,8 +32,8 @@ public final class ModelTest {
     }
 
     private void go() {
-        while (calls < CALLS && CHECKS.isClean()) {
-            if (calls == 0 || draws.below(150) == 0) {
+        while (calls <= CALLS - STEP_CALLS && CHECKS.isClean()) {
+            if (calls == 0 || calls <= CALLS - TELL_CALLS && draws.below(150) == 0) {
                 tell();
             } else {
                 step();

@@ -1,16 +1,16 @@
 /** Each promise of the document by hand: ordinary inputs, the edges it names, wrong inputs. */
-public final class PromisesTest {
-    private static final Checks CHECKS = new Checks("PromisesTest");
-    private static final int BAD = MarkOrder.BAD, STATE = MarkOrder.STATE, FULL = MarkOrder.FULL, NONE = MarkOrder.NONE;
-    private static final int APART = 0, JOINED = 1, SORTED = 2, BARE = 3, BACK = 4, FIRST = 5;
+public final class PromisesTest extends Trial {
     private static final int[] WILD = {-1, -2, Integer.MIN_VALUE, Integer.MAX_VALUE};
 
-    // Bases 0, 1; marks 2 (class 1), 3 and 4 (class 2), 5 (class 5); pairs 6 = 0 2, 7 = 6 3,
-    // 8 = 0 1, 9 = 0 3; an outcast 10 = 1 2; singles 11 of 7, 12 of 3, 13 of 1.
-    private static final String TABLES =
-        "c0;c0;c1;c2;c2;c5;p0 2;p6 3;p0 1;p0 3;x1 2;s7;s3;s1;";
+    private PromisesTest() {
+        super("PromisesTest");
+    }
 
     public static void main(String[] args) {
+        new PromisesTest().go();
+    }
+
+    private void go() {
         promise1New();
         promise2Type();
         promise3Clear();
@@ -39,74 +39,10 @@ public final class PromisesTest {
         promise22Keep();
         promise23Back();
         promise24Count();
-        CHECKS.end();
+        end();
     }
 
-    private static void due(String what, long got, long want) {
-        CHECKS.due(what, got, want);
-    }
-
-    private static void write(MarkOrder x, String text) {
-        for (int i = 0; i < text.length(); i++) {
-            x.type(text.charAt(i));
-        }
-    }
-
-    private static long read(String text) {
-        MarkOrder x = new MarkOrder();
-        write(x, text);
-        return x.tables();
-    }
-
-    private static MarkOrder told(String text) {
-        MarkOrder x = new MarkOrder();
-        write(x, text);
-        CHECKS.holds("tables are read: " + text, x.tables() >= 0);
-        return x;
-    }
-
-    private static void put(MarkOrder x, int t, int... codes) {
-        for (int c : codes) {
-            x.puts(t, c);
-        }
-    }
-
-    private static void clearText(MarkOrder x, int t) {
-        for (int i = 0; i < 20 && x.at(t, -1) > 0; i++) {
-            x.cuts(t);
-        }
-    }
-
-    private static void dueText(String what, MarkOrder x, int t, int... codes) {
-        due(what + ": how many", x.at(t, -1), codes.length);
-        for (int i = 0; i < codes.length; i++) {
-            due(what + ": code " + i, x.at(t, i), codes[i]);
-        }
-    }
-
-    private static void dueRuled(String what, MarkOrder x, int t, int rule, int... codes) {
-        due(what + ": how many", x.ruled(t, rule, -1), codes.length);
-        for (int i = 0; i < codes.length; i++) {
-            due(what + ": code " + i, x.ruled(t, rule, i), codes[i]);
-        }
-        due(what + ": none behind", x.ruled(t, rule, codes.length), BAD);
-    }
-
-    private static void duePiped(String what, MarkOrder x, int t, int... codes) {
-        due(what + ": how many", x.piped(t, -1), codes.length);
-        for (int i = 0; i < codes.length; i++) {
-            due(what + ": code " + i, x.piped(t, i), codes[i]);
-        }
-        due(what + ": none behind", x.piped(t, codes.length), BAD);
-    }
-
-    private static void dueSeam(String what, MarkOrder x, int rule, int ahead, int behind, int between) {
-        due(what + ": ahead", x.seam(0, 1, rule, 0), ahead);
-        due(what + ": behind", x.seam(0, 1, rule, 1), behind);
-        due(what + ": between", x.seam(0, 1, rule, 2), between);
-    }
-
-    private static void promise1New() {
+    private void promise1New() {
         MarkOrder x = new MarkOrder();
         for (int what = 0; what <= 7; what++) {
             due("1 new: count " + what, x.count(what), 0);
@@ -127,7 +63,7 @@ public final class PromisesTest {
         due("1 new: objects are apart", new MarkOrder().count(7), 0);
     }
 
-    private static void promise2Type() {
+    private void promise2Type() {
         MarkOrder x = new MarkOrder();
         due("2 type: lowest", x.type(0), 1);
         due("2 type: highest", x.type(255), 2);
@@ -145,7 +81,7 @@ public final class PromisesTest {
         due("2 type: still 150", x.count(7), 150);
     }
 
-    private static void promise3Clear() {
+    private void promise3Clear() {
         MarkOrder x = new MarkOrder();
         due("3 clear: none", x.clear(), 0);
         write(x, "c0;@");
@@ -159,7 +95,7 @@ public final class PromisesTest {
         due("3 clear: codes stay", x.code(0, 0), 3);
     }
 
-    private static void promise4Tables() {
+    private void promise4Tables() {
         due("4 tables: empty", read(""), 0);
         due("4 tables: blanks", read("   "), 0);
         due("4 tables: one", read("c9;"), 1);
@@ -184,7 +120,7 @@ public final class PromisesTest {
         due("4 tables: no codes then", x.count(0), 0);
     }
 
-    private static void dueFault(String text, int place) {
+    private void dueFault(String text, int place) {
         MarkOrder x = told("c0;c4;");
         put(x, 2, 1);
         x.pipes(BACK);
@@ -200,7 +136,7 @@ public final class PromisesTest {
         due("4 tables: image stays", x.back(1), 1);
     }
 
-    private static void promise4Faults() {
+    private void promise4Faults() {
         dueFault("c", 1);
         dueFault("c ", 2);
         dueFault("c0", 2);
@@ -269,7 +205,7 @@ public final class PromisesTest {
         dueFault(pairs7 + "x0 8;p0 8;", 67);
     }
 
-    private static void promise4ReadAnew() {
+    private void promise4ReadAnew() {
         MarkOrder x = told(TABLES);
         put(x, 0, 0, 1);
         put(x, 3, 2);
@@ -294,13 +230,13 @@ public final class PromisesTest {
         due("4 anew: pairs again", x.pair(6, 3), 7);
     }
 
-    private static void dueCode(MarkOrder x, int c, int... want) {
+    private void dueCode(MarkOrder x, int c, int... want) {
         for (int what = 0; what <= 8; what++) {
             due("5 code: " + c + ", " + what, x.code(c, what), want[what]);
         }
     }
 
-    private static void promise5Code() {
+    private void promise5Code() {
         MarkOrder x = told(TABLES);
         dueCode(x, 0, 0, 0, NONE, NONE, 1, 0, NONE, NONE, NONE);
         dueCode(x, 5, 5, 0, NONE, NONE, 1, 5, NONE, NONE, NONE);
@@ -320,7 +256,7 @@ public final class PromisesTest {
         }
     }
 
-    private static void promise6Pair() {
+    private void promise6Pair() {
         MarkOrder x = told(TABLES);
         due("6 pair: of plain ones", x.pair(0, 2), 6);
         due("6 pair: of a pair", x.pair(6, 3), 7);
@@ -338,7 +274,7 @@ public final class PromisesTest {
         }
     }
 
-    private static void promise7Puts() {
+    private void promise7Puts() {
         MarkOrder x = told(TABLES);
         for (int i = 0; i < 16; i++) {
             due("7 puts: up to 16", x.puts(3, i % 14), i + 1);
@@ -357,7 +293,7 @@ public final class PromisesTest {
         due("7 puts: the last is gone", x.at(3, -1), 15);
     }
 
-    private static void promise8Cuts() {
+    private void promise8Cuts() {
         MarkOrder x = told(TABLES);
         put(x, 1, 5, 11);
         due("8 cuts: none in text 0", x.cuts(0), STATE);
@@ -372,7 +308,7 @@ public final class PromisesTest {
         due("8 cuts: refused ones are not undone", x.count(6), 4);
     }
 
-    private static void promise9Appends() {
+    private void promise9Appends() {
         MarkOrder x = told(TABLES);
         put(x, 0, 0, 2, 3);
         put(x, 1, 4, 5);
@@ -401,7 +337,7 @@ public final class PromisesTest {
         }
     }
 
-    private static void promise10Forms() {
+    private void promise10Forms() {
         MarkOrder x = told(TABLES);
         put(x, 0, 11, 12);
         due("10 forms: apart", x.forms(0, APART), 4);
@@ -435,7 +371,7 @@ public final class PromisesTest {
         }
     }
 
-    private static void promise11Undo() {
+    private void promise11Undo() {
         MarkOrder x = told(TABLES);
         put(x, 0, 3, 2);
         put(x, 1, 11);
@@ -472,7 +408,7 @@ public final class PromisesTest {
         dueText("11 undo: goes on", x, 2, 0, 1, 2);
     }
 
-    private static void promise12At() {
+    private void promise12At() {
         MarkOrder x = told(TABLES);
         put(x, 2, 13, 5);
         due("12 at: how many", x.at(2, -1), 2);
@@ -490,7 +426,7 @@ public final class PromisesTest {
         due("12 at: what was cut", x.at(2, 1), BAD);
     }
 
-    private static void promise13Apart() {
+    private void promise13Apart() {
         MarkOrder x = told(TABLES);
         dueRuled("13 apart: none", x, 0, APART);
         put(x, 0, 5, 3, 2, 4, 11, 12, 2, 13, 10);
@@ -515,7 +451,7 @@ public final class PromisesTest {
         due("13 apart: wild place", x.ruled(0, 0, Integer.MAX_VALUE), BAD);
     }
 
-    private static void promise13Joined() {
+    private void promise13Joined() {
         MarkOrder x = told(TABLES);
         put(x, 0, 0, 3, 2);
         dueRuled("13 joined: sorted first", x, 0, JOINED, 7);
@@ -540,7 +476,7 @@ public final class PromisesTest {
         dueRuled("13 joined: what stayed blocks the base", y, 2, JOINED, 5, 3, 6);
     }
 
-    private static void promise13OtherRules() {
+    private void promise13OtherRules() {
         MarkOrder x = told(TABLES);
         put(x, 0, 5, 12, 11, 4, 12, 2, 10, 3);
         dueRuled("13 sorted: not taken apart", x, 0, SORTED, 12, 5, 11, 2, 4, 12, 10, 3);
@@ -562,7 +498,7 @@ public final class PromisesTest {
         }
     }
 
-    private static void promise14Quick() {
+    private void promise14Quick() {
         MarkOrder x = told(TABLES);
         put(x, 0, 0, 4, 5);
         due("14 quick: apart, plain, sorted", x.quick(0, 0), 1);
@@ -599,7 +535,7 @@ public final class PromisesTest {
         }
     }
 
-    private static void promise15Same() {
+    private void promise15Same() {
         MarkOrder x = told(TABLES);
         put(x, 0, 0, 3, 2);
         put(x, 1, 11);
@@ -625,7 +561,7 @@ public final class PromisesTest {
         }
     }
 
-    private static void promise16Seam() {
+    private void promise16Seam() {
         MarkOrder x = told(TABLES);
         dueSeam("16 seam: of none", x, JOINED, 0, 0, 0);
         put(x, 0, 1, 0);
@@ -673,7 +609,7 @@ public final class PromisesTest {
         }
     }
 
-    private static void promise17Spellings() {
+    private void promise17Spellings() {
         MarkOrder x = told(TABLES);
         due("17 spellings: of none", x.spellings(0), 1);
         put(x, 0, 7);
@@ -705,7 +641,7 @@ public final class PromisesTest {
         }
     }
 
-    private static void promise18Pipes() {
+    private void promise18Pipes() {
         MarkOrder x = new MarkOrder();
         due("18 pipes: no such rule", x.pipes(6), BAD);
         due("18 pipes: first", x.pipes(5), 1);
@@ -721,7 +657,7 @@ public final class PromisesTest {
         due("18 pipes: not undone", x.undo(), STATE);
     }
 
-    private static void promise19Unpipe() {
+    private void promise19Unpipe() {
         MarkOrder x = told(TABLES);
         due("19 unpipe: none", x.unpipe(), 0);
         x.pipes(BACK);
@@ -734,7 +670,7 @@ public final class PromisesTest {
         due("19 unpipe: texts may be undone still", x.count(6), 2);
     }
 
-    private static void promise20Piped() {
+    private void promise20Piped() {
         MarkOrder x = told(TABLES);
         put(x, 0, 11, 1, 3);
         duePiped("20 piped: no rules", x, 0, 11, 1, 3);
@@ -767,7 +703,7 @@ public final class PromisesTest {
         due("20 piped: 64 go through", four.piped(0, -1), 64);
     }
 
-    private static void promise21Fixed() {
+    private void promise21Fixed() {
         MarkOrder x = told(TABLES);
         put(x, 0, 0, 3, 2, 1);
         due("21 fixed: no rules", x.fixed(0), 0);
@@ -787,7 +723,7 @@ public final class PromisesTest {
     }
 
     /** Joined to its base, turned, taken apart, turned again: each time the mark goes one base ahead. */
-    private static void fixedByLength() {
+    private void fixedByLength() {
         MarkOrder x = told("c0;c1;p0 1;");
         x.pipes(JOINED);
         x.pipes(BACK);
@@ -801,7 +737,7 @@ public final class PromisesTest {
         }
     }
 
-    private static void promise22Keep() {
+    private void promise22Keep() {
         MarkOrder x = told(TABLES);
         due("22 keep: of none", x.keep(0), 0);
         put(x, 0, 0, 1, 2);
@@ -818,7 +754,7 @@ public final class PromisesTest {
         dueText("22 keep: text 3", x, 3, 5);
     }
 
-    private static void promise23Back() {
+    private void promise23Back() {
         MarkOrder x = told(TABLES);
         put(x, 0, 0, 1);
         x.pipes(BACK);
@@ -852,7 +788,7 @@ public final class PromisesTest {
         }
     }
 
-    private static void promise24Count() {
+    private void promise24Count() {
         MarkOrder x = told(TABLES);
         put(x, 0, 0, 1, 2);
         x.pipes(FIRST);
