@@ -581,6 +581,12 @@ public final class TableEdgesTest extends Trial {
         }
         due("pair: of a pair's pieces in one", x.pair(5, 1), NONE);
         due("pair: of a plain one's none", told("c0;").pair(0, 0), NONE);
+        MarkOrder y = told("c0;c1;p0 1;s0;s1;s2;x2 1;");
+        for (int a = 0; a < 7; a++) {
+            for (int b = 0; b < 7; b++) {
+                due("pair: a single is not its one, " + a + " and " + b, y.pair(a, b), a == 0 && b == 1 ? 2 : NONE);
+            }
+        }
         due("pair: NONE is no code", x.pair(0, NONE), BAD);
         due("pair: of none at all", new MarkOrder().pair(0, 0), BAD);
     }

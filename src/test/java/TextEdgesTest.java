@@ -40,6 +40,7 @@ public final class TextEdgesTest extends Trial {
         sortedBetweenBases();
         sortedKeepsThoseOfOneClass();
         joinedPastWhatStayed();
+        joinedPastIsBlockedStill();
         joinedBases();
         joinedFromTheFirstBaseOn();
         joinedNeverToAnOutcast();
@@ -478,6 +479,17 @@ public final class TextEdgesTest extends Trial {
         dueRuled("joined: past a second one that stays", x, 1, JOINED, 5, 2);
         put(x, 2, 0, 3, 3, 3);
         dueRuled("joined: blocked by one like it", x, 2, JOINED, 6, 3, 3);
+    }
+
+    /** "between L and C a CODE stayed": what stayed blocks as before, when another one was JOINED past it. */
+    private void joinedPastIsBlockedStill() {
+        MarkOrder x = told("c0;c1;c2;c0;p0 2;p4 3;");
+        put(x, 0, 0, 2, 3);
+        dueRuled("joined: a base behind what was joined alone", x, 0, JOINED, 5);
+        put(x, 1, 0, 1, 2, 3);
+        dueRuled("joined: a base behind one that was passed", x, 1, JOINED, 4, 1, 3);
+        put(x, 2, 0, 2, 1, 3, 0, 2, 3);
+        dueRuled("joined: passed, and anew from the next base", x, 2, JOINED, 4, 1, 3, 5);
     }
 
     /** "to the latest BASE (it is L) .. else C stays, and is L then, if it is a BASE". */
