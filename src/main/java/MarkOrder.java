@@ -368,7 +368,7 @@ public final class MarkOrder {
         }
 
         int cell(int i) {
-            return i >= 0 && i < length && i < cells.length ? cells[i] : NONE;
+            return has(i) ? cells[i] : NONE;
         }
 
         void setCell(int i, int value) {
@@ -831,7 +831,10 @@ public final class MarkOrder {
         private void sort(Codes codes, Row row) {
             for (int i = 1; i < row.length(); i++) {
                 int ofClass = codes.classOf(row.cell(i));
-                int to = ofClass == BASE ? 0 : i;
+                if (ofClass == BASE) {
+                    continue;
+                }
+                int to = i;
                 // A base ahead ends this too: its class is never above that of a mark.
                 while (to > 0 && codes.classOf(row.cell(to - 1)) > ofClass) {
                     to--;
